@@ -15,11 +15,13 @@ public final class RandomRuns {
     private final WarmerColder made = new WarmerColder();
     private final Model model = new Model();
     private final StringBuilder told = new StringBuilder();
+    private final int oddOneIn;
     private int calls;
     private boolean same = true;
 
     private RandomRuns(int seed) {
         random = new Random(seed);
+        oddOneIn = rarely(10) ? 3 : 40;
     }
 
     public static void main(String[] args) {
@@ -47,7 +49,7 @@ public final class RandomRuns {
 
     /** A number that mostly is below n, and now and then anything. */
     private int about(int n) {
-        if (rarely(40)) {
+        if (rarely(oddOneIn)) {
             int[] odd = {-1, -2, n, n + 1, Integer.MAX_VALUE, Integer.MIN_VALUE, random.nextInt(), 64};
             return odd[below(odd.length)];
         }
