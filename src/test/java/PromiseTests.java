@@ -247,6 +247,11 @@ public final class PromiseTests {
         Due.court(x, COURT);
         Due.is("5 LAW 5 is its own", x.far(5, 2, 0, 1), 5);
         Due.is("5 LAW 2 is its own", x.far(2, 2, 0, 1), 2);
+        x = of(COURT);
+        Due.is("5 a fault behind CLAUSES", Due.law(x, "hour 7;hour 8 if seen=1;man 9;road"), Due.fault(34, 0));
+        Due.is("5 a LAW in its place", Due.law(x, "hour 5"), 0);
+        Due.is("5 none of the other's, HOURS", x.far(0, 0, 0, 2), 5);
+        Due.is("5 none of the other's, MEN", x.far(0, 2, 0, 2), 2);
         WarmerColder y = new WarmerColder();
         Due.is("5 an empty TAPE", y.law(), -3);
         Due.is("5 blanks where one likes", Due.law(y, "  hour1+asked if[not 1<=seen]and 2>1;man  5 "), 0);
@@ -440,6 +445,7 @@ public final class PromiseTests {
         test("[1<2 or 1>2]and 1>2", false);
         test("1>2 and 1<2 or 1<2", true);
         test("1>2 or 1>2 or 1<2", true);
+        test("1<2 or 1>2 or 1>2", true);
         test("1<2 and 1<2 and 1>2", false);
         test("1>2 or 1<2 and 1<2 or 1>2", true);
         test("asked=2 and seen=1 and dyears=20", true);
@@ -505,7 +511,7 @@ public final class PromiseTests {
         Due.is("10 none such", x.strike(4, true), false);
         Due.is("10 none such, back", x.strike(4, false), false);
         Due.is("10 below 0", x.strike(-1, true), false);
-        x.strike(3, true);
+        x.strike(0, true);
         Due.court(x, COURT);
         x.answer(0, 0, 0, 1);
         Due.is("10 a new one is not STRUCK", x.answers(0, 4), 0);
@@ -600,6 +606,37 @@ public final class PromiseTests {
         Due.is("16 no WORLD", x.may(0, 0, 0, 0), 0);
         Due.is("17 no WORLD, all", x.cleared(0, 0), 7);
         Due.is("17 not MAN 0 and 1", x.cleared(0, 1), 4);
+        // The greatest COURT: 7 of each rather than 6, TRUE in 7 alone.
+        x = of(lines(8, 8, 8), LAW);
+        for (int kind = 0; kind < 3; kind++) {
+            x.answer(kind, kind, 7, 6);
+        }
+        Due.is("13 the first of 512", x.wrong(0, 0), 3);
+        Due.is("13 the last of 512", x.wrong(0, 511), 0);
+        Due.is("14 one of 512", x.kept(0, 0), 1);
+        Due.is("14 22 of 512", x.kept(0, 1), 22);
+        Due.is("15 one of 512", x.world(0, 0, 0), 511);
+        Due.is("15 22 of 512", x.world(0, 1, 21), 511);
+        Due.is("16 22 of 512", x.may(0, 1, 2, 7), 15);
+        Due.is("17 one of 512", x.cleared(0, 0), 127);
+        Due.is("18 one of 512", x.fewest(0, 1), 511);
+        Due.is("23 22 of 512", x.byLaws(1, 1, 0), 22);
+        Due.is("26 an eighth of 512", x.alone(0, 2), 64);
+        x.only(0);
+        Due.is("28 84 PAIRS", x.useful(0, 0, 0), 84);
+        Due.is("30 84 PAIRS", x.next(0, 0, 0, 2), 7);
+    }
+
+    /** HOURS, ROADS and MEN on lines, one apart each. */
+    private static String lines(int hours, int roads, int men) {
+        StringBuilder b = new StringBuilder("hours ").append(hours);
+        for (int i = 0; i < roads; i++) {
+            b.append(";road ").append(i).append(" 0");
+        }
+        for (int i = 0; i < men; i++) {
+            b.append(";man ").append(i).append(" 0");
+        }
+        return b.toString();
     }
 
     private static void promises18To21() {
@@ -629,6 +666,11 @@ public final class PromiseTests {
         x.strike(4, false);
         x.only(4);
         Due.is("21 not with one behind", x.quarrel(0), -2);
+        Due.is("18 not one behind", x.fewest(0, 0), 0);
+        Due.is("19 not one behind", x.falseOnes(0), 0);
+        Due.is("20 not one behind", x.liars(0), 0);
+        x.only(3);
+        Due.is("19 LOOKED AT alone", x.falseOnes(0), 0);
         x.only(NONE);
         x.answer(2, 0, 2, 0);
         x.answer(3, 0, 0, 1);
@@ -640,6 +682,19 @@ public final class PromiseTests {
         x.only(0);
         Due.is("18 none LOOKED AT", x.fewest(0, 2), 27);
         Due.is("18 BEST is the first", x.fewest(0, 1), 0);
+
+        x = heard();
+        x.answer(5, 1, 0, 2);
+        Due.is("21 of ROADS", x.quarrel(0), 64 * 1 + 4);
+        x.answer(4, 0, 2, 1);
+        Due.is("21 of HOURS, behind", x.quarrel(0), 5);
+        // HOUR 2 in BEST makes 4 FALSE: not LOOKED AT, it isn't told.
+        x = house();
+        x.answer(0, 0, 2, 1);
+        x.answer(0, 0, 0, 1);
+        x.only(1);
+        Due.is("19 FALSE in BEST, but behind", x.falseOnes(0), 0);
+        Due.is("20 FALSE, but behind", x.liars(0), 0);
 
         // By this LAW, HOUR 0 is nowhere nearer than 1: an ANSWER that is TRUE in no WORLD.
         x = of(COURT, "hour 1-asked");
@@ -678,6 +733,11 @@ public final class PromiseTests {
         x.strike(4, true);
         Due.is("22 not a STRUCK one", x.proof(0, 0), -2);
         x.strike(4, false);
+        x.only(4);
+        Due.is("22 not one behind", x.proof(0, 0), -2);
+        x.only(NONE);
+        x.strike(4, true);
+        x.strike(4, false);
         x.answer(5, 2, 0, 1);
         Due.is("22 the least of several", x.proof(0, 0), 8);
         Due.is("22 one MAN, none needed", of("road 1 1;man 1 1", "man 1").proof(0, 0), 0);
@@ -710,6 +770,9 @@ public final class PromiseTests {
         Due.is("23 LAW 1", x.byLaws(2, 0, 0), 12);
         Due.is("23 k 1, by each", x.byLaws(3, 1, 0), 11);
         Due.is("23 k 40", x.byLaws(3, 40, 0), 27);
+        x.only(1);
+        Due.is("23 the first ANSWER alone", x.byLaws(3, 0, 0), 18);
+        x.only(NONE);
         Due.is("23 no set", x.byLaws(0, 0, 0), NONE);
         Due.is("23 no such LAW in it", x.byLaws(4, 0, 0), NONE);
         Due.is("23 one too many", x.byLaws(7, 0, 0), NONE);
@@ -807,6 +870,7 @@ public final class PromiseTests {
         x.only(NONE);
         Due.is("29 no such ANSWER", x.filled(0, 0, 4), NONE);
         Due.is("29 below 0", x.filled(0, 0, -1), NONE);
+        Due.is("29 k 40", x.filled(0, 40, 3), 6);
         Due.is("29 no such k", x.filled(0, 41, 0), NONE);
         Due.is("29 k below 0", x.filled(0, -1, 0), NONE);
         Due.is("29 no such LAW", x.filled(1, 0, 0), NONE);
@@ -872,6 +936,26 @@ public final class PromiseTests {
         x = quarrelling();
         Due.is("31 no WORLD", x.needed(0, 0), 0);
         Due.is("31 four KEPT", x.needed(0, 1), 2);
+        Due.is("31 none again", x.needed(0, 0), 0);
+        // HOUR 0 is the only one where 0 is TRUE; ROADS 0 to 5 where 1 is: 30 + 30 + 5 WORLDS.
+        x = of(lines(2, 7, 5), LAW);
+        x.answer(0, 0, 0, 1);
+        x.answer(0, 1, 5, 6);
+        Due.is("31 65 of 70, KEPT", x.kept(0, 1), 65);
+        Due.is("31 65 of 70", x.needed(0, 1), NONE);
+        Due.is("31 30 of 70", x.needed(0, 0), -2);
+        // Other WORLDS on the same object: HOURS 0 and 1 first, then 2, then 1 and 2.
+        x = of("hours 3;road 1 1;man 1 1", LAW);
+        Due.is("31 three", x.needed(0, 0), 2);
+        x.answer(0, 0, 0, 2);
+        Due.is("31 0 and 1", x.needed(0, 0), 1);
+        x.answer(0, 0, 2, 1);
+        Due.is("31 none of them", x.needed(0, 0), 0);
+        x.strike(0, true);
+        Due.is("31 2", x.needed(0, 0), 0);
+        x.strike(1, true);
+        x.answer(0, 0, 1, 0);
+        Due.is("31 1 and 2", x.needed(0, 0), 1);
     }
 
     private static void steered(String call, WarmerColder x, int world, int man, int... want) {
@@ -968,6 +1052,11 @@ public final class PromiseTests {
         trials("three HOURS, three", x, 3, 4, 3, 3);
         trials("three HOURS, four", x, 4, 6, 4, 4);
         Due.is("35 x is as it was", x.count(8), 0);
+        // 1341714958 / 65536 = 20472, 1460808642 / 65536 = 22290: three times something both.
+        x.seed(9);
+        trials("just below", x, 1, 1, 1, 1);
+        x.seed(13);
+        trials("just above", x, 1, 1, 1, 1);
         x.seed(654583775);
         trials("three HOURS, from there", x, 1, 2, 1, 1);
         x.answer(0, 0, 0, 1);
@@ -1019,7 +1108,9 @@ public final class PromiseTests {
         Due.is("37 no such VERDICT", x.old(0, 0, 2, 0), NONE);
         Due.is("37 below 0", x.old(0, 0, -1, 0), NONE);
         Due.is("37 no such LAW", x.old(1, 0, 0, 2), NONE);
+        Due.is("37 k 40", x.old(0, 40, 0, 1), 26);
         Due.is("37 no such k", x.old(0, 41, 0, 2), NONE);
+        Due.is("37 k below 0", x.old(0, -1, 0, 2), NONE);
         Due.is("37 no such what", x.old(0, 0, 0, 3), NONE);
         Due.is("37 what below 0", x.old(0, 0, 0, -1), NONE);
         for (int i = 2; i < 10; i++) {
@@ -1100,9 +1191,22 @@ public final class PromiseTests {
         Due.is("40 no such IMAGE", x.back(4), NONE);
         Due.is("40 below 0", x.back(-1), NONE);
         Due.is("40 nothing happened", x.count(4), 2);
+        Due.court(x, COURT);
         x.answer(5, 0, 0, 1);
+        x.answer(4, 2, 1, 0);
         x.strike(0, true);
+        x.verdict(8);
         Due.is("40 again", x.back(3), 2);
+        int[] first = {0, 0, 0, 2};
+        int[] second = {1, 1, 2, 0};
+        for (int what = 0; what < 4; what++) {
+            Due.is("40 ANSWER 0 what " + what, x.answers(0, what), first[what]);
+            Due.is("40 ANSWER 1 what " + what, x.answers(1, what), second[what]);
+        }
+        // VERDICT 0 was on WORLD 5, (0, 1, 2), with two ANSWERS; ANSWER 0 is TRUE in 18 WORLDS.
+        Due.is("40 VERDICT, how many then", x.old(0, 0, 0, 2), 2);
+        Due.is("40 VERDICT, its WORLD", x.old(0, 0, 0, 0), 1);
+        Due.is("40 VERDICT, others", x.old(0, 0, 0, 1), 17);
         Due.is("40 the IMAGE is as it was", x.answers(0, 4), 0);
         Due.is("40 to where nothing was told", x.back(0), 0);
         Due.is("40 no COURT", x.count(0), 0);
