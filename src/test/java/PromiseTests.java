@@ -663,7 +663,11 @@ public final class PromiseTests {
         Due.is("21 3 and 4", x.quarrel(0), 64 * 3 + 4);
         x.strike(4, true);
         Due.is("21 not with a STRUCK one", x.quarrel(0), -2);
+        Due.is("20 not a STRUCK one", x.liars(0), 0);
         x.strike(4, false);
+        x.strike(3, true);
+        Due.is("20 not another STRUCK one", x.liars(0), 0);
+        x.strike(3, false);
         x.only(4);
         Due.is("21 not with one behind", x.quarrel(0), -2);
         Due.is("18 not one behind", x.fewest(0, 0), 0);
@@ -753,6 +757,13 @@ public final class PromiseTests {
         Due.is("22 the thirteenth is not asked", x.proof(0, 2), -2);
         x.strike(0, true);
         Due.is("22 it comes up", x.proof(0, 2), 2048);
+        // 0 is TRUE in MEN 0 and 1, 1 in 0 and 2, 2 in 0 alone: one is fewer than two.
+        x = of("road 1 1" + ";man 1 1".repeat(3), "man 0 if asked=seen or asked=1 and seen=2;man 1");
+        x.answer(0, 2, 0, 2);
+        x.answer(1, 2, 2, 1);
+        Due.is("22 both", x.proof(0, 0), 3);
+        x.answer(2, 2, 0, 1);
+        Due.is("22 the fewest, though a greater number", x.proof(0, 0), 4);
         // Never TRUE: no proof may have it.
         x = of("road 1 1;man 1 1;man 2 1", "man 1-asked");
         x.answer(0, 2, 0, 1);
@@ -1193,9 +1204,9 @@ public final class PromiseTests {
         Due.is("40 nothing happened", x.count(4), 2);
         Due.court(x, COURT);
         x.answer(5, 0, 0, 1);
+        x.verdict(26);
         x.answer(4, 2, 1, 0);
         x.strike(0, true);
-        x.verdict(8);
         Due.is("40 again", x.back(3), 2);
         int[] first = {0, 0, 0, 2};
         int[] second = {1, 1, 2, 0};
