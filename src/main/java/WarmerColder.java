@@ -169,7 +169,8 @@ public final class WarmerColder {
     }
 
     public int thing(int kind, int k, int what) {
-        if (isOutside(kind, KINDS)) {
+        // Without a COURT there are no KINDS of things: NONE, where count answers 0.
+        if (isOutside(kind, KINDS) || !now.court.isTold()) {
             return NONE;
         }
         if (what == 2) {

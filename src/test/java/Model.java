@@ -501,7 +501,7 @@ final class Model {
     // ---- the calls ----
 
     int thing(int kind, int k, int what) {
-        if (kind < 0 || kind > 2) {
+        if (!told() || kind < 0 || kind > 2) {
             return NONE;
         }
         if (what == 2) {

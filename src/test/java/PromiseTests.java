@@ -358,6 +358,34 @@ public final class PromiseTests {
         Due.is("6 no such what", x.thing(1, 0, 3), NONE);
         Due.is("6 what below 0", x.thing(1, 0, -1), NONE);
         Due.is("6 extremes", x.thing(MAX, MAX, MAX), NONE);
+        promise6WithoutCourt();
+    }
+
+    private static void promise6WithoutCourt() {
+        WarmerColder x = new WarmerColder();
+        noThings("new", x);
+        Due.is("6 a COURT with a FAULT", Due.court(x, "hours 3;road 1 1"), Due.fault(16, 0));
+        noThings("behind a FAULT", x);
+        Due.law(x, LAW);
+        noThings("with a LAW alone", x);
+        x.image(0);
+        Due.is("6 the least COURT", Due.court(x, "road 1 2;man 3 4"), 1);
+        for (int kind = 0; kind < 3; kind++) {
+            Due.is("6 one of KIND " + kind, x.thing(kind, 0, 2), 1);
+        }
+        Due.is("6 a FAULT leaves the COURT", Due.court(x, "man 1 1"), Due.fault(7, 0));
+        Due.is("6 still one HOUR", x.thing(0, 0, 2), 1);
+        x.back(0);
+        noThings("gone back to no COURT", x);
+    }
+
+    private static void noThings(String when, WarmerColder x) {
+        for (int kind = 0; kind < 3; kind++) {
+            for (int what = 0; what < 3; what++) {
+                Due.is("6 " + when + " KIND " + kind + " what " + what, x.thing(kind, 0, what), NONE);
+            }
+            Due.is("6 " + when + " count " + kind, x.count(kind), 0);
+        }
     }
 
     private static void promise7() {

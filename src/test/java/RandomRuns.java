@@ -220,7 +220,7 @@ public final class RandomRuns {
         int worlds = model.count(0) * model.count(1) * model.count(2);
         int world = about(worlds);
         int kind = about(3);
-        int thing = about(model.thing(Math.floorMod(kind, 3), 0, 2));
+        int thing = about(model.count(Math.floorMod(kind, 3)));
         int answer = about(model.count(4));
         int man = about(model.count(2));
         int what = about(3);
@@ -236,7 +236,7 @@ public final class RandomRuns {
                 due(made.only(n), model.only(n), "only", n);
             }
             case 10 -> {
-                int other = about(model.thing(Math.floorMod(kind, 3), 0, 2));
+                int other = about(model.count(Math.floorMod(kind, 3)));
                 due(made.far(law, kind, thing, other), model.far(law, kind, thing, other), "far", law, kind, thing, other);
             }
             case 11 -> due(made.holds(law, answer, world), model.holds(law, answer, world), "holds", law, answer, world);
@@ -315,7 +315,7 @@ public final class RandomRuns {
     private void newAnswer() {
         int witness = about(6);
         int kind = about(3);
-        int many = model.thing(Math.floorMod(kind, 3), 0, 2);
+        int many = model.count(Math.floorMod(kind, 3));
         int one = about(many);
         int other = about(many);
         due(made.answer(witness, kind, one, other), model.answer(witness, kind, one, other),
