@@ -19,6 +19,41 @@ final class Due {
         is(call, got ? 1 : 0, want ? 1 : 0);
     }
 
+    static void same(String call, String got, String want) {
+        is(call, got.equals(want), true);
+        if (!got.equals(want)) {
+            System.out.println("  is  " + got);
+            System.out.println("  due " + want);
+        }
+    }
+
+    /** All that an object can be asked for without a LAW, and of LAW 0 what tells of the rest. */
+    static String state(WarmerColder x) {
+        StringBuilder b = new StringBuilder("counts");
+        for (int what = 0; what < 10; what++) {
+            b.append(' ').append(x.count(what));
+        }
+        int first = x.only(WarmerColder.NONE);
+        b.append(", first ").append(first).append(", things");
+        x.only(first);
+        for (int kind = 1; kind < 3; kind++) {
+            for (int thing = 0; thing < x.count(kind); thing++) {
+                b.append(' ').append(x.thing(kind, thing, 0)).append('/').append(x.thing(kind, thing, 1));
+            }
+        }
+        b.append(", ANSWERS");
+        for (int answer = 0; answer < x.count(4); answer++) {
+            for (int what = 0; what < 5; what++) {
+                b.append(what == 0 ? ' ' : '/').append(x.answers(answer, what));
+            }
+        }
+        b.append(", VERDICTS");
+        for (int verdict = 0; verdict < x.count(7); verdict++) {
+            b.append(' ').append(x.old(0, 1, verdict, 0)).append('/').append(x.old(0, 1, verdict, 2));
+        }
+        return b.append(", KEPT ").append(x.kept(0, 0)).toString();
+    }
+
     /** Tells how many passed; ends with 1 if one failed. */
     static void end(String of) {
         System.out.println(of + ": " + passed + " passed, " + failed + " failed");

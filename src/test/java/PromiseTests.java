@@ -5,15 +5,6 @@ public final class PromiseTests {
     private static final int MIN = Integer.MIN_VALUE;
     private static final long NO_FAR = -1000000000000L;
 
-    /*
-     * THE HOUSE: three HOURS; ROADS 0 (0, 0), 1 (3, 4), 2 (10, 0); MEN 0 (20, kin 1), 1 (30, 1),
-     * 2 (50, 2). By its LAW 0, HOURS are FAR by what they are apart, ROADS 25 (0, 1), 100 (0, 2)
-     * and 65 (1, 2), MEN 10 (0, 1), 30 (0, 2) and 20 (1, 2).
-     */
-    private static final String COURT =
-            "hours 3;road 0 0;road 3 4;road 10 0;man 20 1;man 30 1;man 50 2";
-    private static final String LAW = "road dx*dx+dy*dy;man dyears";
-
     private PromiseTests() {
     }
 
@@ -52,43 +43,6 @@ public final class PromiseTests {
         Due.end("PromiseTests");
     }
 
-    private static WarmerColder house() {
-        WarmerColder x = new WarmerColder();
-        Due.court(x, COURT);
-        Due.law(x, LAW);
-        return x;
-    }
-
-    /**
-     * 0: HOUR 0 rather than 2, TRUE in HOURS 0 and 1. 1: ROAD 2 rather than 0, TRUE in 2 alone.
-     * 2: MAN 0 rather than 2, TRUE in 0 and 1. 3: MAN 1 rather than 0, TRUE in 1 and 2.
-     * So none is FALSE in WORLDS 7 and 16, (0, 2, 1) and (1, 2, 1).
-     */
-    private static WarmerColder heard() {
-        WarmerColder x = house();
-        x.answer(0, 0, 0, 2);
-        x.answer(1, 1, 2, 0);
-        x.answer(2, 2, 0, 2);
-        x.answer(0, 2, 1, 0);
-        return x;
-    }
-
-    /** And 4: MAN 0 rather than 1, TRUE in 0 alone: it quarrels with 3. */
-    private static WarmerColder quarrelling() {
-        WarmerColder x = heard();
-        x.answer(1, 2, 0, 1);
-        return x;
-    }
-
-    private static WarmerColder of(String court, String... laws) {
-        WarmerColder x = new WarmerColder();
-        Due.court(x, court);
-        for (String law : laws) {
-            Due.is("law " + law, Due.law(x, law) >= 0, true);
-        }
-        return x;
-    }
-
     private static void promise1() {
         WarmerColder x = new WarmerColder();
         Due.is("NONE", NONE, -1);
@@ -103,7 +57,7 @@ public final class PromiseTests {
         Due.is("1 new spare", x.spare(0), 9);
         Due.is("1 new only", x.only(5), NONE);
         Due.is("1 new verdict", x.verdict(0), -2);
-        Due.law(x, LAW);
+        Due.law(x, Courts.PLAIN);
         Due.is("1 no COURT, kept", x.kept(0, 0), NONE);
         Due.is("1 no COURT, far", x.far(0, 0, 0, 0), NO_FAR);
         Due.is("1 no COURT, byLaws", x.byLaws(1, 0, 0), NONE);
@@ -114,7 +68,7 @@ public final class PromiseTests {
         Due.is("1 no COURT, falseOnes", x.falseOnes(0), NONE);
         Due.is("1 no COURT, quarrel", x.quarrel(0), NONE);
         Due.is("1 no COURT, needed", x.needed(0, 0), NONE);
-        WarmerColder y = of(COURT);
+        WarmerColder y = Courts.of(Courts.HOUSE);
         Due.is("1 no LAW, kept", y.kept(0, 0), NONE);
         Due.is("1 no LAW, byLaws", y.byLaws(1, 0, 0), NONE);
         Due.is("1 no LAW, far", y.far(0, 0, 0, 0), NO_FAR);
@@ -149,8 +103,8 @@ public final class PromiseTests {
     }
 
     private static void promise4() {
-        WarmerColder x = house();
-        Due.is("4 WORLDS", Due.court(x, COURT), 27);
+        WarmerColder x = Courts.house();
+        Due.is("4 WORLDS", Due.court(x, Courts.HOUSE), 27);
         Due.is("4 TAPE is empty", x.count(9), 0);
         Due.is("4 one HOUR without hours", Due.court(x, "road 0 0;man 0 0"), 1);
         Due.is("4 count", x.count(0), 1);
@@ -162,7 +116,7 @@ public final class PromiseTests {
         Due.is("4 most WORLDS", Due.court(x, full), 512);
         Due.is("4 400 bytes", Due.court(x, "road 1 1;" + " ".repeat(384) + "man 2 2"), 1);
 
-        x = heard();
+        x = Courts.heard();
         x.only(2);
         x.verdict(3);
         x.seed(77);
@@ -173,13 +127,13 @@ public final class PromiseTests {
         Due.is("4 fault, ANSWERS stay", x.count(4), 4);
         Due.is("4 fault, VERDICTS stay", x.count(7), 1);
         Due.is("4 fault, first n stay", x.count(6), 2);
-        Due.is("4 anew", Due.court(x, COURT), 27);
+        Due.is("4 anew", Due.court(x, Courts.HOUSE), 27);
         Due.is("4 no ANSWERS", x.count(4), 0);
         Due.is("4 no VERDICTS", x.count(7), 0);
         Due.is("4 x stays", x.count(8), 77);
         Due.is("4 LAWS stay", x.count(3), 1);
         Due.is("4 IMAGES stay", x.back(1), 4);
-        Due.court(x, COURT);
+        Due.court(x, Courts.HOUSE);
         Due.is("4 all LOOKED AT", x.only(NONE), NONE);
         Due.is("4 far by the new COURT", x.far(0, 1, 0, 1), 25);
         Due.court(x, "road 0 0;road 0 9;man 1 1");
@@ -231,7 +185,7 @@ public final class PromiseTests {
 
     private static void promise5() {
         WarmerColder x = new WarmerColder();
-        Due.is("5 first", Due.law(x, LAW), 0);
+        Due.is("5 first", Due.law(x, Courts.PLAIN), 0);
         Due.is("5 TAPE is empty", x.count(9), 0);
         Due.is("5 second", Due.law(x, "hour 1"), 1);
         Due.is("5 a fault", Due.law(x, "hour"), Due.fault(4, 0));
@@ -244,10 +198,10 @@ public final class PromiseTests {
         Due.is("5 there are 6", x.law(), NONE);
         Due.is("5 the TAPE stays", x.count(9), 4);
         Due.is("5 6 LAWS", x.count(3), 6);
-        Due.court(x, COURT);
+        Due.court(x, Courts.HOUSE);
         Due.is("5 LAW 5 is its own", x.far(5, 2, 0, 1), 5);
         Due.is("5 LAW 2 is its own", x.far(2, 2, 0, 1), 2);
-        x = of(COURT);
+        x = Courts.of(Courts.HOUSE);
         Due.is("5 a fault behind CLAUSES", Due.law(x, "hour 7;hour 8 if seen=1;man 9;road"), Due.fault(34, 0));
         Due.is("5 a LAW in its place", Due.law(x, "hour 5"), 0);
         Due.is("5 none of the other's, HOURS", x.far(0, 0, 0, 2), 5);
@@ -341,7 +295,7 @@ public final class PromiseTests {
     }
 
     private static void promise6() {
-        WarmerColder x = house();
+        WarmerColder x = Courts.house();
         Due.is("6 x", x.thing(1, 2, 0), 10);
         Due.is("6 y", x.thing(1, 1, 1), 4);
         Due.is("6 years", x.thing(2, 2, 0), 50);
@@ -366,7 +320,7 @@ public final class PromiseTests {
         noThings("new", x);
         Due.is("6 a COURT with a FAULT", Due.court(x, "hours 3;road 1 1"), Due.fault(16, 0));
         noThings("behind a FAULT", x);
-        Due.law(x, LAW);
+        Due.law(x, Courts.PLAIN);
         noThings("with a LAW alone", x);
         x.image(0);
         Due.is("6 the least COURT", Due.court(x, "road 1 2;man 3 4"), 1);
@@ -389,7 +343,7 @@ public final class PromiseTests {
     }
 
     private static void promise7() {
-        WarmerColder x = house();
+        WarmerColder x = Courts.house();
         Due.is("7 HOURS are apart", x.far(0, 0, 0, 2), 2);
         Due.is("7 apart, back", x.far(0, 0, 2, 0), 2);
         Due.is("7 ROADS", x.far(0, 1, 1, 2), 65);
@@ -407,7 +361,7 @@ public final class PromiseTests {
 
     private static void sum(String sum, int kind, long want) {
         String word = new String[] {"hour", "road", "man"}[kind];
-        WarmerColder x = of(COURT, word + " " + sum);
+        WarmerColder x = Courts.of(Courts.HOUSE, word + " " + sum);
         Due.is("7 " + word + " " + sum, x.far(0, kind, 2, 1), want);
     }
 
@@ -437,20 +391,20 @@ public final class PromiseTests {
         sum("0-99999*99999*99999*99999", 0, -(99999L * 99999L * 99999L * 99999L));
         sum("99999", 0, 99999);
         sum("00007", 0, 7);
-        WarmerColder x = of(COURT, "man kin*10+dyears");
+        WarmerColder x = Courts.of(Courts.HOUSE, "man kin*10+dyears");
         Due.is("7 kin alike", x.far(0, 2, 0, 1), 20);
         Due.is("7 kin of himself", x.far(0, 2, 2, 2), 10);
-        x = of(COURT, "man years-seen");
+        x = Courts.of(Courts.HOUSE, "man years-seen");
         Due.is("7 years are of who is asked", x.far(0, 2, 0, 2), 18);
         // 2 to the 62, doubled, is the least long; by -1 it stays so.
         String least = "4*4*4*4*4*4*4*4*4*4*4*4*4*4*4*4*4*4*4*4*4*4*4*4*4*4*4*4*4*4*4*2";
-        x = of(COURT, "hour " + least, "hour " + least + "-1");
+        x = Courts.of(Courts.HOUSE, "hour " + least, "hour " + least + "-1");
         Due.is("7 round in 64 bits", x.far(0, 0, 0, 0), Long.MIN_VALUE);
         Due.is("7 round, back", x.far(1, 0, 0, 0), Long.MAX_VALUE);
     }
 
     private static void test(String test, boolean want) {
-        WarmerColder x = of(COURT, "man 1 if " + test + ";man 2");
+        WarmerColder x = Courts.of(Courts.HOUSE, "man 1 if " + test + ";man 2");
         Due.is("7 if " + test, x.far(0, 2, 2, 1), want ? 1 : 2);
     }
 
@@ -480,7 +434,7 @@ public final class PromiseTests {
         test("1+1=4-2", true);
         test("0-1<0", true);
         test("0<0-1", false);
-        WarmerColder x = of(COURT, "road 5;man 1 if asked=0;man 2 if seen=0;hour 7 if 1>2", "hour 3;hour 4");
+        WarmerColder x = Courts.of(Courts.HOUSE, "road 5;man 1 if asked=0;man 2 if seen=0;hour 7 if 1>2", "hour 3;hour 4");
         Due.is("7 first CLAUSE", x.far(0, 2, 0, 0), 1);
         Due.is("7 second CLAUSE", x.far(0, 2, 1, 0), 2);
         Due.is("7 no CLAUSE holds", x.far(0, 2, 2, 1), 1);
@@ -493,7 +447,7 @@ public final class PromiseTests {
     private static void promise8() {
         WarmerColder x = new WarmerColder();
         Due.is("8 no COURT", x.answer(0, 0, 0, 1), NONE);
-        Due.court(x, COURT);
+        Due.court(x, Courts.HOUSE);
         Due.is("8 first", x.answer(5, 2, 2, 0), 0);
         Due.is("8 no such WITNESS", x.answer(6, 2, 2, 0), NONE);
         Due.is("8 WITNESS below 0", x.answer(-1, 2, 2, 0), NONE);
@@ -519,7 +473,7 @@ public final class PromiseTests {
     }
 
     private static void promises9And10() {
-        WarmerColder x = heard();
+        WarmerColder x = Courts.heard();
         Due.is("9 WITNESS", x.answers(2, 0), 2);
         Due.is("9 KIND", x.answers(1, 1), 1);
         Due.is("9 the one", x.answers(1, 2), 2);
@@ -540,13 +494,13 @@ public final class PromiseTests {
         Due.is("10 none such, back", x.strike(4, false), false);
         Due.is("10 below 0", x.strike(-1, true), false);
         x.strike(0, true);
-        Due.court(x, COURT);
+        Due.court(x, Courts.HOUSE);
         x.answer(0, 0, 0, 1);
         Due.is("10 a new one is not STRUCK", x.answers(0, 4), 0);
     }
 
     private static void promise11() {
-        WarmerColder x = heard();
+        WarmerColder x = Courts.heard();
         Due.is("11 all at first", x.only(2), NONE);
         Due.is("11 two", x.kept(0, 0), 6);
         Due.is("11 two were", x.only(0), 2);
@@ -569,7 +523,7 @@ public final class PromiseTests {
     }
 
     private static void promises12And13() {
-        WarmerColder x = heard();
+        WarmerColder x = Courts.heard();
         Due.is("12 TRUE", x.holds(0, 0, 0), 1);
         Due.is("12 both as FAR", x.holds(0, 0, 9), 1);
         Due.is("12 FALSE", x.holds(0, 0, 18), 0);
@@ -597,7 +551,7 @@ public final class PromiseTests {
     }
 
     private static void promises14To17() {
-        WarmerColder x = heard();
+        WarmerColder x = Courts.heard();
         Due.is("14 k 0", x.kept(0, 0), 2);
         Due.is("14 k 1", x.kept(0, 1), 11);
         Due.is("14 k 2", x.kept(0, 2), 23);
@@ -635,7 +589,7 @@ public final class PromiseTests {
         Due.is("17 no WORLD, all", x.cleared(0, 0), 7);
         Due.is("17 not MAN 0 and 1", x.cleared(0, 1), 4);
         // The greatest COURT: 7 of each rather than 6, TRUE in 7 alone.
-        x = of(lines(8, 8, 8), LAW);
+        x = Courts.of(Courts.lines(8, 8, 8), Courts.PLAIN);
         for (int kind = 0; kind < 3; kind++) {
             x.answer(kind, kind, 7, 6);
         }
@@ -655,20 +609,8 @@ public final class PromiseTests {
         Due.is("30 84 PAIRS", x.next(0, 0, 0, 2), 7);
     }
 
-    /** HOURS, ROADS and MEN on lines, one apart each. */
-    private static String lines(int hours, int roads, int men) {
-        StringBuilder b = new StringBuilder("hours ").append(hours);
-        for (int i = 0; i < roads; i++) {
-            b.append(";road ").append(i).append(" 0");
-        }
-        for (int i = 0; i < men; i++) {
-            b.append(";man ").append(i).append(" 0");
-        }
-        return b.toString();
-    }
-
     private static void promises18To21() {
-        WarmerColder x = heard();
+        WarmerColder x = Courts.heard();
         Due.is("18 FEWEST", x.fewest(0, 0), 0);
         Due.is("18 BEST", x.fewest(0, 1), 7);
         Due.is("18 so few", x.fewest(0, 2), 2);
@@ -682,7 +624,7 @@ public final class PromiseTests {
         Due.is("20 no such LAW", x.liars(-1), NONE);
         Due.is("21 no such LAW", x.quarrel(MAX), NONE);
 
-        x = quarrelling();
+        x = Courts.quarrelling();
         Due.is("18 FEWEST, quarrelling", x.fewest(0, 0), 1);
         Due.is("18 BEST, quarrelling", x.fewest(0, 1), 6);
         Due.is("18 so few, quarrelling", x.fewest(0, 2), 4);
@@ -715,13 +657,13 @@ public final class PromiseTests {
         Due.is("18 none LOOKED AT", x.fewest(0, 2), 27);
         Due.is("18 BEST is the first", x.fewest(0, 1), 0);
 
-        x = heard();
+        x = Courts.heard();
         x.answer(5, 1, 0, 2);
         Due.is("21 of ROADS", x.quarrel(0), 64 * 1 + 4);
         x.answer(4, 0, 2, 1);
         Due.is("21 of HOURS, behind", x.quarrel(0), 5);
         // HOUR 2 in BEST makes 4 FALSE: not LOOKED AT, it isn't told.
-        x = house();
+        x = Courts.house();
         x.answer(0, 0, 2, 1);
         x.answer(0, 0, 0, 1);
         x.only(1);
@@ -729,7 +671,7 @@ public final class PromiseTests {
         Due.is("20 FALSE, but behind", x.liars(0), 0);
 
         // By this LAW, HOUR 0 is nowhere nearer than 1: an ANSWER that is TRUE in no WORLD.
-        x = of(COURT, "hour 1-asked");
+        x = Courts.of(Courts.HOUSE, "hour 1-asked");
         x.answer(4, 1, 0, 1);
         x.answer(5, 0, 0, 1);
         Due.is("21 with one that is never TRUE", x.quarrel(0), 1);
@@ -737,7 +679,7 @@ public final class PromiseTests {
         x.answer(5, 1, 2, 1);
         Due.is("20 still he alone", x.liars(0), 32);
 
-        x = house();
+        x = Courts.house();
         for (int i = 0; i < 36; i++) {
             x.answer(i % 4, 2, 0, 1);
         }
@@ -750,14 +692,14 @@ public final class PromiseTests {
     }
 
     private static void promise22() {
-        WarmerColder x = heard();
+        WarmerColder x = Courts.heard();
         Due.is("22 2 and 3 for MAN 1", x.proof(0, 1), 12);
         Due.is("22 none for MAN 0", x.proof(0, 0), -2);
         Due.is("22 none for MAN 2", x.proof(0, 2), -2);
         Due.is("22 no such MAN", x.proof(0, 3), NONE);
         Due.is("22 below 0", x.proof(0, -1), NONE);
         Due.is("22 no such LAW", x.proof(1, 0), NONE);
-        x = quarrelling();
+        x = Courts.quarrelling();
         Due.is("22 4 for MAN 0", x.proof(0, 0), 16);
         Due.is("22 2 and 3 still", x.proof(0, 1), 12);
         x.strike(1, true);
@@ -772,9 +714,9 @@ public final class PromiseTests {
         x.strike(4, false);
         x.answer(5, 2, 0, 1);
         Due.is("22 the least of several", x.proof(0, 0), 8);
-        Due.is("22 one MAN, none needed", of("road 1 1;man 1 1", "man 1").proof(0, 0), 0);
+        Due.is("22 one MAN, none needed", Courts.of("road 1 1;man 1 1", "man 1").proof(0, 0), 0);
 
-        x = house();
+        x = Courts.house();
         for (int i = 0; i < 11; i++) {
             x.answer(i % 2, 0, 0, 1);
         }
@@ -786,21 +728,21 @@ public final class PromiseTests {
         x.strike(0, true);
         Due.is("22 it comes up", x.proof(0, 2), 2048);
         // 0 is TRUE in MEN 0 and 1, 1 in 0 and 2, 2 in 0 alone: one is fewer than two.
-        x = of("road 1 1" + ";man 1 1".repeat(3), "man 0 if asked=seen or asked=1 and seen=2;man 1");
+        x = Courts.of("road 1 1" + ";man 1 1".repeat(3), "man 0 if asked=seen or asked=1 and seen=2;man 1");
         x.answer(0, 2, 0, 2);
         x.answer(1, 2, 2, 1);
         Due.is("22 both", x.proof(0, 0), 3);
         x.answer(2, 2, 0, 1);
         Due.is("22 the fewest, though a greater number", x.proof(0, 0), 4);
         // Never TRUE: no proof may have it.
-        x = of("road 1 1;man 1 1;man 2 1", "man 1-asked");
+        x = Courts.of("road 1 1;man 1 1;man 2 1", "man 1-asked");
         x.answer(0, 2, 0, 1);
         Due.is("22 there must be such a WORLD", x.proof(0, 0), -2);
         Due.is("22 there must be one for him, too", x.proof(0, 1), -2);
     }
 
     private static void promise23() {
-        WarmerColder x = heard();
+        WarmerColder x = Courts.heard();
         // By LAW 1 ROADS are FAR by apart, and MEN are all alike: HOURS 0, 1, ROADS 1, 2, all MEN.
         Due.law(x, "man 0");
         Due.is("23 by each", x.byLaws(3, 0, 0), 2);
@@ -828,7 +770,7 @@ public final class PromiseTests {
     }
 
     private static void promises24To27() {
-        WarmerColder x = heard();
+        WarmerColder x = Courts.heard();
         Due.is("24 in none", x.looks(0, 0, 2), 0);
         Due.is("24 ROADS 0 and 1", x.looks(0, 1, 1), 4);
         Due.is("24 in all", x.looks(0, 40, 1), 18);
@@ -865,37 +807,37 @@ public final class PromiseTests {
         Due.is("27 what below 0", x.mean(0, 0, -1), NONE);
         Due.is("27 no such k", x.mean(0, 41, 0), NONE);
         Due.is("27 no such LAW", x.mean(1, 0, 0), NONE);
-        x = quarrelling();
+        x = Courts.quarrelling();
         Due.is("24 no WORLD", x.looks(0, 0, 0), 0);
         Due.is("25 no WORLD", x.sure(0, 0, 1), -2);
         Due.is("27 no WORLD", x.mean(0, 0, 0), -2);
     }
 
     private static void promise28() {
-        WarmerColder x = house();
+        WarmerColder x = Courts.house();
         Due.is("28 all nine PAIRS", x.useful(0, 0, 0), 9);
         Due.is("28 27 WORLDS", x.useful(0, 0, 1), 5);
         Due.is("28 no such what", x.useful(0, 0, 2), NONE);
         Due.is("28 what below 0", x.useful(0, 0, -1), NONE);
         Due.is("28 no such k", x.useful(0, 41, 0), NONE);
         Due.is("28 no such LAW", x.useful(1, 0, 0), NONE);
-        x = heard();
+        x = Courts.heard();
         // Of WORLDS 7 and 16, HOURS 0 and 1: only the PAIR of these parts them; 0 and 2 do not.
         Due.is("28 two WORLDS, useful", x.useful(0, 0, 0), 1);
         Due.is("28 two WORLDS", x.useful(0, 0, 1), 1);
         Due.is("28 11 WORLDS", x.useful(0, 1, 1), 4);
-        x = quarrelling();
+        x = Courts.quarrelling();
         Due.is("28 no WORLD", x.useful(0, 0, 1), 0);
         Due.is("28 no WORLD, useful", x.useful(0, 0, 0), 0);
         Due.is("28 four WORLDS", x.useful(0, 1, 1), 2);
-        Due.is("28 one WORLD", of("road 1 1;man 1 1", LAW).useful(0, 0, 1), 0);
-        Due.is("28 eight WORLDS", of("hours 8;road 1 1;man 1 1", LAW).useful(0, 0, 1), 3);
-        Due.is("28 512 WORLDS", of("hours 8" + ";road 1 1".repeat(8) + ";man 1 1".repeat(8), LAW).useful(0, 0, 1), 9);
-        Due.is("28 all as FAR", of(COURT, "hour 1;road 1;man 1").useful(0, 0, 0), 0);
+        Due.is("28 one WORLD", Courts.of("road 1 1;man 1 1", Courts.PLAIN).useful(0, 0, 1), 0);
+        Due.is("28 eight WORLDS", Courts.of("hours 8;road 1 1;man 1 1", Courts.PLAIN).useful(0, 0, 1), 3);
+        Due.is("28 512 WORLDS", Courts.of("hours 8" + ";road 1 1".repeat(8) + ";man 1 1".repeat(8), Courts.PLAIN).useful(0, 0, 1), 9);
+        Due.is("28 all as FAR", Courts.of(Courts.HOUSE, "hour 1;road 1;man 1").useful(0, 0, 0), 0);
     }
 
     private static void promise29() {
-        WarmerColder x = heard();
+        WarmerColder x = Courts.heard();
         Due.is("29 an HOUR", x.filled(0, 0, 0), 6);
         Due.is("29 a ROAD", x.filled(0, 0, 1), 6);
         Due.is("29 MEN 1 and 2 are left", x.filled(0, 0, 2), 5);
@@ -913,7 +855,7 @@ public final class PromiseTests {
         Due.is("29 no such k", x.filled(0, 41, 0), NONE);
         Due.is("29 k below 0", x.filled(0, -1, 0), NONE);
         Due.is("29 no such LAW", x.filled(1, 0, 0), NONE);
-        x = quarrelling();
+        x = Courts.quarrelling();
         Due.is("29 no WORLD by the others", x.filled(0, 0, 0), 0);
         Due.is("29 it was the quarrel", x.filled(0, 0, 4), 3);
         Due.is("29 k 1", x.filled(0, 1, 0), 6);
@@ -926,7 +868,7 @@ public final class PromiseTests {
     }
 
     private static void promise30() {
-        WarmerColder x = house();
+        WarmerColder x = Courts.house();
         pair("house, at worst", x, 0, 0, 0, 1, 18, 9);
         pair("house, on the mean", x, 1, 0, 0, 1, 18, 9);
         Due.is("30 no such by", x.next(0, 0, 2, 0), NONE);
@@ -936,55 +878,55 @@ public final class PromiseTests {
         Due.is("30 no such k", x.next(0, 41, 0, 0), NONE);
         Due.is("30 no such LAW", x.next(1, 0, 0, 0), NONE);
         // HOUR 2 lies between 0 and 1: PAIR 0, 1 leaves two and two, 0, 2 and 1, 2 leave one and two.
-        x = of("hours 3;road 1 1;man 1 1", "hour 0 if asked=seen;hour 2 if asked+seen=1;hour 1");
+        x = Courts.of("hours 3;road 1 1;man 1 1", "hour 0 if asked=seen;hour 2 if asked+seen=1;hour 1");
         pair("between, at worst", x, 0, 0, 0, 1, 2, 2);
         pair("between, on the mean", x, 1, 0, 0, 2, 2, 1);
-        pair("no PAIR", of("road 1 1;man 1 1", LAW), 0, -2, -2, -2, -2, -2);
-        pair("no PAIR, on the mean", of("road 1 1;man 1 1", LAW), 1, -2, -2, -2, -2, -2);
-        pair("no HOURS", of("road 1 1;road 2 2;man 1 1", LAW), 0, 1, 0, 1, 1, 1);
-        pair("MEN alone", of("road 1 1;man 1 1;man 2 2;man 2 2", LAW), 0, 2, 0, 1, 2, 1);
-        pair("all as FAR", of(COURT, "hour 1;road 1;man 1"), 1, 0, 0, 1, 27, 27);
-        x = quarrelling();
+        pair("no PAIR", Courts.of("road 1 1;man 1 1", Courts.PLAIN), 0, -2, -2, -2, -2, -2);
+        pair("no PAIR, on the mean", Courts.of("road 1 1;man 1 1", Courts.PLAIN), 1, -2, -2, -2, -2, -2);
+        pair("no HOURS", Courts.of("road 1 1;road 2 2;man 1 1", Courts.PLAIN), 0, 1, 0, 1, 1, 1);
+        pair("MEN alone", Courts.of("road 1 1;man 1 1;man 2 2;man 2 2", Courts.PLAIN), 0, 2, 0, 1, 2, 1);
+        pair("all as FAR", Courts.of(Courts.HOUSE, "hour 1;road 1;man 1"), 1, 0, 0, 1, 27, 27);
+        x = Courts.quarrelling();
         pair("no WORLD", x, 0, 0, 0, 1, 0, 0);
-        x = heard();
+        x = Courts.heard();
         pair("two WORLDS", x, 0, 0, 0, 1, 1, 1);
         // Four HOURS: the PAIR in the middle halves them.
-        x = of("hours 4;road 1 1;man 1 1", LAW);
+        x = Courts.of("hours 4;road 1 1;man 1 1", Courts.PLAIN);
         pair("the middle", x, 0, 0, 0, 3, 2, 2);
         pair("the middle, on the mean", x, 1, 0, 0, 3, 2, 2);
     }
 
     private static void promise31() {
-        Due.is("31 one WORLD", of("road 1 1;man 1 1", LAW).needed(0, 0), 0);
-        Due.is("31 two HOURS", of("hours 2;road 1 1;man 1 1", LAW).needed(0, 0), 1);
-        Due.is("31 three HOURS", of("hours 3;road 1 1;man 1 1", LAW).needed(0, 0), 2);
-        Due.is("31 four HOURS", of("hours 4;road 1 1;man 1 1", LAW).needed(0, 0), 2);
-        Due.is("31 five HOURS", of("hours 5;road 1 1;man 1 1", LAW).needed(0, 0), 3);
-        Due.is("31 eight HOURS", of("hours 8;road 1 1;man 1 1", LAW).needed(0, 0), 3);
-        Due.is("31 two of each", of("hours 2;road 1 1;road 2 2;man 1 1;man 2 2", LAW).needed(0, 0), 3);
-        Due.is("31 nine WORLDS", of("hours 3;road 1 1;road 2 2;road 3 3;man 1 1", LAW).needed(0, 0), -2);
-        Due.is("31 never", of("hours 2;road 1 1;man 1 1", "hour 1").needed(0, 0), -2);
-        Due.is("31 never, three", of("hours 3;road 1 1;man 1 1", "hour 0 if asked=0;hour 1").needed(0, 0), -2);
-        Due.is("31 64 WORLDS", of("hours 8" + ";road 1 1".repeat(8) + ";man 1 1", LAW).needed(0, 0), -2);
-        Due.is("31 72 WORLDS", of("hours 8" + ";road 1 1".repeat(3) + ";man 1 1;man 1 1;man 1 1", LAW).needed(0, 0), NONE);
-        WarmerColder x = heard();
+        Due.is("31 one WORLD", Courts.of("road 1 1;man 1 1", Courts.PLAIN).needed(0, 0), 0);
+        Due.is("31 two HOURS", Courts.of("hours 2;road 1 1;man 1 1", Courts.PLAIN).needed(0, 0), 1);
+        Due.is("31 three HOURS", Courts.of("hours 3;road 1 1;man 1 1", Courts.PLAIN).needed(0, 0), 2);
+        Due.is("31 four HOURS", Courts.of("hours 4;road 1 1;man 1 1", Courts.PLAIN).needed(0, 0), 2);
+        Due.is("31 five HOURS", Courts.of("hours 5;road 1 1;man 1 1", Courts.PLAIN).needed(0, 0), 3);
+        Due.is("31 eight HOURS", Courts.of("hours 8;road 1 1;man 1 1", Courts.PLAIN).needed(0, 0), 3);
+        Due.is("31 two of each", Courts.of("hours 2;road 1 1;road 2 2;man 1 1;man 2 2", Courts.PLAIN).needed(0, 0), 3);
+        Due.is("31 nine WORLDS", Courts.of("hours 3;road 1 1;road 2 2;road 3 3;man 1 1", Courts.PLAIN).needed(0, 0), -2);
+        Due.is("31 never", Courts.of("hours 2;road 1 1;man 1 1", "hour 1").needed(0, 0), -2);
+        Due.is("31 never, three", Courts.of("hours 3;road 1 1;man 1 1", "hour 0 if asked=0;hour 1").needed(0, 0), -2);
+        Due.is("31 64 WORLDS", Courts.of("hours 8" + ";road 1 1".repeat(8) + ";man 1 1", Courts.PLAIN).needed(0, 0), -2);
+        Due.is("31 72 WORLDS", Courts.of("hours 8" + ";road 1 1".repeat(3) + ";man 1 1;man 1 1;man 1 1", Courts.PLAIN).needed(0, 0), NONE);
+        WarmerColder x = Courts.heard();
         Due.is("31 two KEPT", x.needed(0, 0), 1);
         Due.is("31 eleven KEPT", x.needed(0, 1), -2);
         Due.is("31 no such k", x.needed(0, 41), NONE);
         Due.is("31 no such LAW", x.needed(1, 0), NONE);
-        x = quarrelling();
+        x = Courts.quarrelling();
         Due.is("31 no WORLD", x.needed(0, 0), 0);
         Due.is("31 four KEPT", x.needed(0, 1), 2);
         Due.is("31 none again", x.needed(0, 0), 0);
         // HOUR 0 is the only one where 0 is TRUE; ROADS 0 to 5 where 1 is: 30 + 30 + 5 WORLDS.
-        x = of(lines(2, 7, 5), LAW);
+        x = Courts.of(Courts.lines(2, 7, 5), Courts.PLAIN);
         x.answer(0, 0, 0, 1);
         x.answer(0, 1, 5, 6);
         Due.is("31 65 of 70, KEPT", x.kept(0, 1), 65);
         Due.is("31 65 of 70", x.needed(0, 1), NONE);
         Due.is("31 30 of 70", x.needed(0, 0), -2);
         // Other WORLDS on the same object: HOURS 0 and 1 first, then 2, then 1 and 2.
-        x = of("hours 3;road 1 1;man 1 1", LAW);
+        x = Courts.of("hours 3;road 1 1;man 1 1", Courts.PLAIN);
         Due.is("31 three", x.needed(0, 0), 2);
         x.answer(0, 0, 0, 2);
         Due.is("31 0 and 1", x.needed(0, 0), 1);
@@ -1004,7 +946,7 @@ public final class PromiseTests {
     }
 
     private static void promise32() {
-        WarmerColder x = house();
+        WarmerColder x = Courts.house();
         steered("MAN 0, who it was", x, 0, 0, 2, 0, 1, 9, 9);
         // No PAIR of MEN leaves MAN 2, where it was MAN 0: the first of the others leaves a third.
         steered("MAN 2, who it was not", x, 0, 2, 0, 0, 1, 3, 9);
@@ -1018,26 +960,26 @@ public final class PromiseTests {
         Due.is("32 what below 0", x.steered(0, 0, 0, 0, -1), NONE);
         Due.is("32 no such k", x.steered(0, 41, 0, 0, 0), NONE);
         Due.is("32 no such LAW", x.steered(1, 0, 0, 0, 0), NONE);
-        steered("no PAIR", of("road 1 1;man 1 1", LAW), 0, 0, -2, -2, -2, -2, -2);
-        steered("no WORLD", quarrelling(), 0, 0, -2, -2, -2, -2, -2);
+        steered("no PAIR", Courts.of("road 1 1;man 1 1", Courts.PLAIN), 0, 0, -2, -2, -2, -2, -2);
+        steered("no WORLD", Courts.quarrelling(), 0, 0, -2, -2, -2, -2, -2);
         // KEPT are 7 and 16, of HOURS 0 and 1. Where it is HOUR 2, the PAIR 0, 1 leaves HOUR 1 (as
         // 1 is nearer); MAN 0 is in neither: all parts are 0, and the first PAIR is told.
-        x = heard();
+        x = Courts.heard();
         steered("a WORLD that is not KEPT", x, 18, 0, 0, 0, 1, 0, 1);
         steered("the MAN in all KEPT", x, 18, 1, 0, 0, 1, 1, 1);
         // HOUR 0 alone is KEPT; where it is HOUR 2, the PAIRS of HOURS leave none: ROADS are next.
-        x = house();
+        x = Courts.house();
         x.answer(0, 0, 0, 1);
         steered("PAIRS that leave none are none", x, 18, 2, 1, 0, 1, 1, 3);
         // Both as FAR: as if the first were nearer.
-        x = of("hours 1;road 1 1;man 1 1;man 1 1", "man 0 if seen=0;man asked");
+        x = Courts.of("hours 1;road 1 1;man 1 1;man 1 1", "man 0 if seen=0;man asked");
         steered("both as FAR", x, 0, 1, 2, 0, 1, 1, 2);
-        x = of("road 1 1;man 1 1;man 1 1", "man 0 if seen=0;man 1-asked");
+        x = Courts.of("road 1 1;man 1 1;man 1 1", "man 0 if seen=0;man 1-asked");
         steered("both as FAR, the first", x, 0, 0, 2, 0, 1, 1, 1);
     }
 
     private static void promise33() {
-        WarmerColder x = house();
+        WarmerColder x = Courts.house();
         Due.is("33 nine", x.spare(0), 9);
         x.answer(0, 0, 0, 1);
         Due.is("33 eight", x.spare(0), 8);
@@ -1079,13 +1021,13 @@ public final class PromiseTests {
     }
 
     private static void promise35() {
-        trials("two HOURS", of("hours 2;road 1 1;man 1 1", LAW), 2, 2, 2, 2);
-        trials("one WORLD", of("road 1 1;man 1 1", LAW), 20, 0, 20, 20);
-        trials("never", of("hours 2;road 1 1;man 1 1", "hour 1"), 3, 0, 0, 6);
+        trials("two HOURS", Courts.of("hours 2;road 1 1;man 1 1", Courts.PLAIN), 2, 2, 2, 2);
+        trials("one WORLD", Courts.of("road 1 1;man 1 1", Courts.PLAIN), 20, 0, 20, 20);
+        trials("never", Courts.of("hours 2;road 1 1;man 1 1", "hour 1"), 3, 0, 0, 6);
         // Draws from 0 on: 12345 / 65536 = 0, 1406932606 / 65536 = 21468, 654583775 / 65536 = 9988,
         // 1449466924 / 65536 = 22117; of three the rest is 0, 0, 1, 1. NEXT is 0, 1: HOUR 0 is
         // found by it, HOUR 1 by 1, 2 behind it.
-        WarmerColder x = of("hours 3;road 1 1;man 1 1", LAW);
+        WarmerColder x = Courts.of("hours 3;road 1 1;man 1 1", Courts.PLAIN);
         trials("three HOURS, one", x, 1, 1, 1, 1);
         trials("three HOURS, two", x, 2, 2, 2, 2);
         trials("three HOURS, three", x, 3, 4, 3, 3);
@@ -1101,7 +1043,7 @@ public final class PromiseTests {
         x.answer(0, 0, 0, 1);
         trials("no ANSWERS", x, 1, 2, 1, 1);
         // HOUR 1 and 2 are alike: of them, two are left.
-        x = of("hours 3;road 1 1;man 1 1", "hour 1 if asked=0 and seen>0;hour 1 if asked>0 and seen=0;hour 0");
+        x = Courts.of("hours 3;road 1 1;man 1 1", "hour 1 if asked=0 and seen>0;hour 1 if asked>0 and seen=0;hour 0");
         trials("alike", x, 4, 4, 2, 6);
         Due.is("35 m 0", x.trials(0, 0, 0), NONE);
         Due.is("35 m 20", x.trials(0, 20, 0), 20);
@@ -1115,15 +1057,15 @@ public final class PromiseTests {
         for (int i = 0; i < 8; i++) {
             line += ";road " + i + " 0;man " + i + " 0";
         }
-        trials("nine asked", of(line, "road dx;man dyears"), 1, 9, 1, 1);
+        trials("nine asked", Courts.of(line, "road dx;man dyears"), 1, 9, 1, 1);
         // A PAIR only rules one of its two out: seven for HOURS, two of ROADS, and nine were asked.
         String apart = "0 if asked=seen;";
-        x = of(line, "hour " + apart + "hour 1;road " + apart + "road 1;man " + apart + "man 1");
+        x = Courts.of(line, "hour " + apart + "hour 1;road " + apart + "road 1;man " + apart + "man 1");
         trials("nine are not enough", x, 1, 9, 0, 48);
     }
 
     private static void promises36And37() {
-        WarmerColder x = heard();
+        WarmerColder x = Courts.heard();
         Due.is("36 first", x.verdict(7), 1);
         Due.is("36 no such WORLD", x.verdict(27), -2);
         Due.is("36 below NONE", x.verdict(-2), -2);
@@ -1166,7 +1108,7 @@ public final class PromiseTests {
     }
 
     private static void promise38() {
-        WarmerColder x = heard();
+        WarmerColder x = Courts.heard();
         Due.court(x, "hours 4;road 1 1;man 1 1;man 2 2");
         x.answer(0, 0, 1, 2);
         x.answer(0, 0, 1, 2);
@@ -1178,7 +1120,7 @@ public final class PromiseTests {
         x.verdict(1);
         x.verdict(7);
         x.seed(99);
-        Due.law(x, LAW);
+        Due.law(x, Courts.PLAIN);
         Due.tape(x, "hours");
         int[] want = {4, 1, 2, 2, 3, 1, 1, 4, 99, 5};
         for (int what = 0; what < want.length; what++) {
@@ -1194,8 +1136,8 @@ public final class PromiseTests {
         Due.is("39 where nothing was told", x.image(0), 0);
         Due.is("39 no such IMAGE", x.image(4), NONE);
         Due.is("39 below 0", x.image(-1), NONE);
-        Due.court(x, COURT);
-        Due.law(x, LAW);
+        Due.court(x, Courts.HOUSE);
+        Due.law(x, Courts.PLAIN);
         x.answer(0, 0, 0, 2);
         x.answer(1, 1, 2, 0);
         x.strike(1, true);
@@ -1230,7 +1172,7 @@ public final class PromiseTests {
         Due.is("40 no such IMAGE", x.back(4), NONE);
         Due.is("40 below 0", x.back(-1), NONE);
         Due.is("40 nothing happened", x.count(4), 2);
-        Due.court(x, COURT);
+        Due.court(x, Courts.HOUSE);
         x.answer(5, 0, 0, 1);
         x.verdict(26);
         x.answer(4, 2, 1, 0);
