@@ -150,7 +150,10 @@ public final class AnswerEdges {
         Due.is("10 none such", x.strike(5, true), false);
         Due.is("10 below 0", x.strike(-1, true), false);
         Due.same("10 nothing happened", Due.state(x), before);
+        Due.is("9 not STRUCK", x.answers(3, 4), 0);
         Due.is("10 STRUCK", x.strike(3, true), true);
+        Due.is("9 STRUCK", x.answers(3, 4), 1);
+        Due.is("9 the next one isn't", x.answers(4, 4), 0);
         Due.is("38 one STRUCK", x.count(5), 1);
         Due.is("38 four LOOKED AT", x.count(6), 4);
         String one = Due.state(x);
@@ -398,6 +401,17 @@ public final class AnswerEdges {
         Due.is("21 0 and 3, not 1 and 2, not 0 and 4", x.quarrel(0), 3);
         x.strike(0, true);
         Due.is("21 1 and 2 then", x.quarrel(0), 64 + 2);
+        // Of eight each: both are TRUE in one thing, be it 7 or 0, or in none of one KIND.
+        for (int kind = 0; kind < 3; kind++) {
+            x = said(Courts.lines(8, 8, 8), Courts.PLAIN, by(0, kind, 7, 6), by(0, kind, 6, 7));
+            Due.is("21 none of eight, KIND " + kind, x.quarrel(0), 1);
+            x = said(Courts.lines(8, 8, 8), Courts.PLAIN, by(0, kind, 7, 6), by(0, kind, 7, 0));
+            Due.is("21 the last of eight, KIND " + kind, x.quarrel(0), -2);
+            x = said(Courts.lines(8, 8, 8), Courts.PLAIN, by(0, kind, 0, 1), by(0, kind, 0, 7));
+            Due.is("21 the first of eight, KIND " + kind, x.quarrel(0), -2);
+            x = said(Courts.lines(8, 8, 8), Courts.PLAIN, by(0, kind, 7, 6), by(0, (kind + 1) % 3, 0, 1));
+            Due.is("21 of two KINDS, " + kind, x.quarrel(0), -2);
+        }
         // One that is TRUE in no WORLD is no two, but it quarrels with any.
         x = Courts.of(Courts.many(2, 1, 1), Courts.GREATER);
         x.answer(0, 0, 0, 1);
@@ -426,6 +440,15 @@ public final class AnswerEdges {
         Due.is("22 0, 2 and 3, places 0 to 2", x.proof(0, 0), 7);
         x.only(3);
         Due.is("22 nobody rules MAN 2 out", x.proof(0, 0), -2);
+        // 0 is TRUE in MEN 0 and 1, 1 in 0 and 2, 2 in 0 alone: 4 is fewer than 3, though it is greater.
+        x = Courts.of(Courts.many(1, 1, 3), "man 0 if asked=seen or asked=1 and seen=2;man 1");
+        x.answer(0, 2, 0, 2);
+        x.answer(1, 2, 2, 1);
+        Due.is("22 both", x.proof(0, 0), 3);
+        x.answer(2, 2, 0, 1);
+        Due.is("22 the fewest, though it is greater", x.proof(0, 0), 4);
+        x.answer(3, 2, 0, 1);
+        Due.is("22 of as few the least", x.proof(0, 0), 4);
         // One MAN alone: no ANSWER is needed, whatever was said.
         x = Courts.of(Courts.many(2, 1, 1), Courts.GREATER);
         Due.is("22 the only MAN", x.proof(0, 0), 0);
@@ -468,7 +491,17 @@ public final class AnswerEdges {
         WarmerColder x = said(Courts.many(2, 1, 2), Courts.SAME, by(0, 0, 0, 1), by(0, 0, 1, 0), by(0, 2, 0, 1));
         Due.is("22 MAN 0 by the third alone", x.proof(0, 0), 4);
         Due.is("22 not MAN 1 by no WORLD", x.proof(0, 1), -2);
+        // No WORLD by two ANSWERS on ROADS, on HOURS, on another MAN.
+        for (int kind = 0; kind < 2; kind++) {
+            x = said(Courts.many(2, 2, 1), Courts.SAME, by(0, kind, 0, 1), by(0, kind, 1, 0));
+            Due.is("22 the only MAN, by no ANSWER", x.proof(0, 0), 0);
+            x = said(Courts.many(2, 2, 2), Courts.SAME, by(0, kind, 0, 1), by(0, kind, 1, 0));
+            Due.is("22 no MAN by the quarrel, KIND " + kind, x.proof(0, 0), -2);
+            Due.is("22 no other MAN by it, KIND " + kind, x.proof(0, 1), -2);
+            Due.is("21 of KIND " + kind, x.quarrel(0), 1);
+        }
         x = said(Courts.many(1, 1, 2), Courts.SAME, by(0, 2, 0, 1), by(0, 2, 1, 0));
+        Due.is("21 of MEN", x.quarrel(0), 1);
         Due.is("22 MAN 0, not by both", x.proof(0, 0), 1);
         Due.is("22 MAN 1, not by both", x.proof(0, 1), 2);
         x = said(Courts.many(1, 2, 2), Courts.GREATER, by(0, 1, 0, 1), by(0, 2, 0, 1));
@@ -573,11 +606,17 @@ public final class AnswerEdges {
         x.answer(0, 1, 2, 1);
         Due.is("27 no WORLD, x", x.mean(0, 0, 0), -2);
         Due.is("27 no WORLD, y", x.mean(0, 0, 1), -2);
+        x = Courts.of("road 0 5;road 1 5;road 1 5;man 1 1", Courts.SAME);
+        Due.is("27 two by three", x.mean(0, 0, 0), 0);
+        Due.is("27 fifteen by three", x.mean(0, 0, 1), 5);
+        x = Courts.of("road 7 0;man 1 1", Courts.SAME);
+        Due.is("27 of one WORLD", x.mean(0, 0, 0), 7);
+        Due.is("27 of one WORLD, 0", x.mean(0, 0, 1), 0);
         // Each KEPT WORLD counts, not each ROAD: HOUR 0 has both ROADS with one FALSE, HOUR 1 one.
         x = said("hours 2;road 0 0;road 9 3;man 1 1", Courts.SAME, by(0, 0, 0, 1), by(0, 1, 1, 0));
         Due.is("27 of three WORLDS, two of ROAD 1", x.mean(0, 1, 0), 6);
         Due.is("27 y of three WORLDS", x.mean(0, 1, 1), 2);
-        x = Courts.of("hours 8" + ";road 99 98".repeat(8) + ";man 1 1".repeat(8), Courts.SAME);
+        x = Courts.of("hours 8" + ";road 99 98".repeat(8) + ";man 99 9".repeat(8), Courts.SAME);
         Due.is("27 the most", x.mean(0, 0, 0), 99);
         Due.is("27 the most but one", x.mean(0, 0, 1), 98);
     }
@@ -604,6 +643,13 @@ public final class AnswerEdges {
         Due.is("29 behind the first n: HOURS 0 and 2", x.filled(0, 0, 3), 6);
         Due.is("29 the only one: all", x.filled(0, 0, 0), 6);
         // Two of each KIND: two pairs; eight: 56.
+        for (int kind = 0; kind < 3; kind++) {
+            x = said(Courts.many(8, 8, 8), Courts.SAME, by(0, kind, 6, 7), by(0, kind, 7, 6));
+            Due.is("29 seven of eight of KIND " + kind, x.filled(0, 0, 0), 56);
+            Due.is("29 seven of eight, turned, of KIND " + kind, x.filled(0, 0, 1), 56);
+            x = said(Courts.many(8, 8, 8), Courts.GREATER, by(0, kind, 6, 7));
+            Due.is("29 half of them of KIND " + kind, x.filled(0, 0, 0), 28);
+        }
         Due.is("29 two ROADS", said(Courts.many(1, 2, 1), "road 1", by(0, 1, 0, 1)).filled(0, 0, 0), 2);
         Due.is("29 eight MEN", said(Courts.many(1, 1, 8), "man 1", by(0, 2, 0, 1)).filled(0, 0, 0), 56);
         Due.is("29 by GREATER, half of them", said(Courts.many(1, 1, 8), Courts.GREATER, by(0, 2, 0, 1)).filled(0, 0, 0), 28);

@@ -323,6 +323,16 @@ public final class StateEdges {
         Due.court(x, "hours 2;road 9 9;man 8 8;man 7 7");
         Due.is("40 back behind another COURT", x.back(1), 5);
         Due.same("40 it is as it was, behind another COURT", Due.state(x), before);
+        // Other ANSWERS and VERDICTS in the places of those that there were.
+        for (int i = 0; i < 9; i++) {
+            x.answer(3 + i % 2, 2, 1, 0);
+            x.verdict(i % 4);
+        }
+        x.strike(4, true);
+        x.back(1);
+        Due.same("40 it is as it was, behind others", Due.state(x), before);
+        Due.is("33 seven of WITNESS 0", x.spare(0), 7);
+        Due.is("33 seven of WITNESS 1", x.spare(1), 7);
         // Of more ANSWERS and VERDICTS than there were, none is left.
         for (int i = 0; i < 9; i++) {
             x.answer(5, 0, 1, 2);

@@ -32,8 +32,11 @@ public final class TextEdges {
         towardsNothing();
         roundIn64Bits();
         blanks();
+        signsOfTests();
+        orAndNot();
         depth();
         sixty();
+        sixtyOfEachLaw();
         everyByteBehind();
         everyPrefix();
         firstFault();
@@ -403,6 +406,15 @@ public final class TextEdges {
                 lawFault("hour 1 if 1<2 " + word + " 1<2", 14, 0);
             }
         }
+        // Where a SIGN is due, and where a ] is.
+        for (String word : new String[] {"or", "and", "not", "if", "hour", "road", "man", "hours", "asked", "seen",
+            "apart", "dx", "dy", "years", "dyears", "kin", "x"}) {
+            lawFault("hour 1 if 1 " + word + " 2", 12, 0);
+            lawFault("hour 1 if 1 " + word + " 1<2", 12, 0);
+            if (!word.equals("or") && !word.equals("and")) {
+                lawFault("hour 1 if [1<2 " + word + "]", 15, 0);
+            }
+        }
         for (String word : new String[] {"no", "nots", "nott", "o", "an", "andd", "orr"}) {
             lawFault("hour 1 if " + word + " 1<2", 10, 0);
             lawFault("hour 1 if 1<2 " + word + " 1<2", 14, 0);
@@ -522,6 +534,52 @@ public final class TextEdges {
         }
     }
 
+    /** "SIGN one of < <= = >= >": just below, as much, just above. */
+    private static void signsOfTests() {
+        String[] signs = {"<", "<=", "=", ">=", ">"};
+        boolean[][] holds = {{true, false, false}, {true, true, false}, {false, true, false},
+            {false, true, true}, {false, false, true}};
+        for (int i = 0; i < signs.length; i++) {
+            for (int left = 4; left <= 6; left++) {
+                far("1 if " + left + signs[i] + "5", 0, 2, 0, holds[i][left - 4] ? 1 : 2);
+                far("1 if " + left + "-6" + signs[i] + "0-1", 0, 2, 0, holds[i][left - 4] ? 1 : 2);
+            }
+        }
+    }
+
+    /** "TEST: PART { or PART }. PART: FACT { and FACT }. FACT: not FACT | [ TEST ]" */
+    private static void orAndNot() {
+        String[] facts = {"1>2", "1<2"};
+        for (int bits = 0; bits < 8; bits++) {
+            boolean a = (bits & 1) == 1;
+            boolean b = (bits & 2) == 2;
+            boolean c = (bits & 4) == 4;
+            String p = facts[bits & 1];
+            String q = facts[bits >> 1 & 1];
+            String r = facts[bits >> 2];
+            far("1 if " + p + " or " + q + " or " + r, 0, 2, 0, a || b || c ? 1 : 2);
+            far("1 if " + p + " and " + q + " and " + r, 0, 2, 0, a && b && c ? 1 : 2);
+            far("1 if " + p + " or " + q + " and " + r, 0, 2, 0, a || b && c ? 1 : 2);
+            far("1 if " + p + " and " + q + " or " + r, 0, 2, 0, a && b || c ? 1 : 2);
+            far("1 if [" + p + " or " + q + "] and " + r, 0, 2, 0, (a || b) && c ? 1 : 2);
+            far("1 if " + p + " and [" + q + " or " + r + "]", 0, 2, 0, a && (b || c) ? 1 : 2);
+            far("1 if not " + p + " and " + q + " or " + r, 0, 2, 0, !a && b || c ? 1 : 2);
+            far("1 if not [" + p + " and " + q + "] or " + r, 0, 2, 0, !(a && b) || c ? 1 : 2);
+            far("1 if not not " + p + " or not " + q + " and not " + r, 0, 2, 0, a || !b && !c ? 1 : 2);
+        }
+        // "these brackets are signs": one opens, the other one shuts.
+        law("hour 1 if [1<2]");
+        lawFault("hour 1 if ]1<2]", 10, 0);
+        lawFault("hour 1 if ]1<2[", 10, 0);
+        lawFault("hour 1 if [1<2[", 14, 0);
+        lawFault("hour 1 if [[1<2]", 16, 0);
+        lawFault("hour 1 if [1<2]]", 15, 0);
+        lawFault("hour 1 if []", 11, 0);
+        lawFault("hour 1 if [1<2;", 14, 0);
+        lawFault("hour 1 if (1<2)", 10, 0);
+        lawFault("hour 1 [if 1<2]", 7, 0);
+    }
+
     /** "[ and not lie within one another 10 deep at most"; "2 too deep (at the sign ...)" */
     private static void depth() {
         for (int opened = 0; opened <= 10; opened++) {
@@ -574,6 +632,23 @@ public final class TextEdges {
         far("1+1+1 if 1<2" + " and 1<2".repeat(17) + " and 1>2", 0, 2, 0, 2);
     }
 
+    /** Each LAW has its own sixty, also behind LAWS with a FAULT, however many. */
+    private static void sixtyOfEachLaw() {
+        WarmerColder x = new WarmerColder();
+        Due.court(x, Courts.HOUSE);
+        String sixty = "hour 1" + "+1".repeat(59);
+        for (int i = 0; i < 12; i++) {
+            Due.is("5 61, again", Due.law(x, sixty + "+1"), Due.fault(125, 3));
+        }
+        Due.is("5 sixty", Due.law(x, sixty), 0);
+        Due.is("5 another sixty", Due.law(x, sixty), 1);
+        Due.is("7 sixty", x.far(0, 0, 0, 0), 60);
+        Due.is("7 another sixty", x.far(1, 0, 0, 0), 60);
+        Due.is("5 twelve CLAUSES", Due.law(x, "hour 7" + ";hour 1".repeat(11)), 2);
+        Due.is("5 twelve CLAUSES again", Due.law(x, "hour 8" + ";hour 1".repeat(11)), 3);
+        Due.is("7 by the first of twelve", x.far(2, 0, 0, 0) * 10 + x.far(3, 0, 0, 0), 78);
+    }
+
     // ---- FAULTS ----
 
     /** "0 a byte or WORD that can't stand there": each of the 256 bytes behind a whole text. */
@@ -601,6 +676,14 @@ public final class TextEdges {
             if (c != ' ') {
                 courtFault(c + " 1 1", 0, 0);
                 lawFault(c + " 1", 0, 0);
+            }
+            // Where a VALUE or a FACT is due, and where a ] is.
+            if (!isDigit && c != ' ') {
+                lawFault("hour " + c, 5, 0);
+                lawFault("hour 1 if " + c, c == '[' ? 11 : 10, 0);
+            }
+            if (!isDigit && c != ' ' && "+-*/]".indexOf(c) < 0) {
+                lawFault("hour 1 if [1<2" + c, 14, 0);
             }
             // Where a SIGN is due.
             if (!isDigit && c != ' ' && "+-*/<=>".indexOf(c) < 0) {
