@@ -322,6 +322,12 @@ public final class PairEdges {
     private static void trialsOneLeft() {
         trials("one WORLD", Courts.of(Courts.many(1, 1, 1), Courts.PLAIN), 20, 0, 20, 20);
         trials("two WORLDS", Courts.of(Courts.many(2, 1, 1), "hour apart"), 20, 20, 20, 20);
+        // Eight on a line are always found by three PAIRS, of whatever KIND, the eighth too.
+        trials("eight HOURS", Courts.of(Courts.lines(8, 1, 1), Courts.PLAIN), 20, 60, 20, 20);
+        trials("eight ROADS", Courts.of(Courts.lines(1, 8, 1), Courts.PLAIN), 20, 60, 20, 20);
+        trials("eight MEN", Courts.of(Courts.lines(1, 1, 8), Courts.PLAIN), 20, 60, 20, 20);
+        trials("eight HOURS, two MEN", Courts.of(Courts.lines(8, 1, 2), Courts.PLAIN), 20, 80, 20, 20);
+        trials("eight ROADS, two HOURS", Courts.of(Courts.lines(2, 8, 1), Courts.PLAIN), 20, 80, 20, 20);
         trials("512 WORLDS", Courts.of(Courts.lines(8, 8, 8), Courts.PLAIN), 2, 18, 2, 2);
     }
 
