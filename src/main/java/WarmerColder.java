@@ -1184,14 +1184,10 @@ public final class WarmerColder {
 
     /** Reads a text as a LAW. */
     private static final class LawReader {
-        private Text text;
-        private Law law;
         private int counted;
 
         /** The LAW is whole, if the text has no fault then. */
-        private void read(Text from, Law into) {
-            text = from;
-            law = into;
+        private void read(Text text, Law law) {
             counted = 0;
             law.clear();
             boolean more = true;
@@ -1205,10 +1201,10 @@ public final class WarmerColder {
                 // Behind a fault there is the end alone, and nothing of what follows can be taken.
                 text.skip();
                 int start = law.size;
-                readSum();
+                readSum(text, law);
                 int middle = law.size;
                 if (text.take(WORD_IF)) {
-                    readTest(0);
+                    readTest(text, law, 0);
                 }
                 law.addClause(kind, start, middle);
                 more = text.take(SIGN_SEMICOLON);
@@ -1231,19 +1227,19 @@ public final class WarmerColder {
             }
         }
 
-        private void readTest(int depth) {
+        private void readTest(Text text, Law law, int depth) {
             boolean orWaits = false;
-            readFact(depth);
+            readFact(text, law, depth);
             for (int i = 0; i < TAPE_LIMIT; i++) {
                 if (text.take(WORD_AND)) {
-                    readFact(depth);
+                    readFact(text, law, depth);
                     law.put(WORD_AND);
                 } else if (text.take(WORD_OR)) {
                     if (orWaits) {
                         law.put(WORD_OR);
                     }
                     orWaits = true;
-                    readFact(depth);
+                    readFact(text, law, depth);
                 } else {
                     break;
                 }
@@ -1253,21 +1249,21 @@ public final class WarmerColder {
             }
         }
 
-        private void readFact(int depth) {
+        private void readFact(Text text, Law law, int depth) {
             int opener = text.sign();
             boolean opens = opener == WORD_NOT || opener == SIGN_OPEN;
             if (opens && depth >= DEPTH_LIMIT) {
                 text.fail(FAULT_DEPTH);
             } else if (text.take(WORD_NOT)) {
-                readFact(depth + 1);
+                readFact(text, law, depth + 1);
                 law.put(WORD_NOT);
             } else if (text.take(SIGN_OPEN)) {
-                readTest(depth + 1);
+                readTest(text, law, depth + 1);
                 if (!text.take(SIGN_SHUT)) {
                     text.fail(FAULT_CANNOT_STAND);
                 }
             } else {
-                readSum();
+                readSum(text, law);
                 int sign = text.sign();
                 if (sign < SIGN_LESS || sign > SIGN_GREATER) {
                     text.fail(FAULT_CANNOT_STAND);
@@ -1276,14 +1272,14 @@ public final class WarmerColder {
                 }
                 counted++;
                 text.skip();
-                readSum();
+                readSum(text, law);
                 law.put(sign);
             }
         }
 
-        private void readSum() {
+        private void readSum(Text text, Law law) {
             int waiting = SIGN_END;
-            readValue();
+            readValue(text, law);
             for (int i = 0; i < TAPE_LIMIT; i++) {
                 int sign = text.sign();
                 if (sign < SIGN_PLUS || sign > SIGN_OVER) {
@@ -1291,18 +1287,18 @@ public final class WarmerColder {
                 }
                 text.skip();
                 if (sign == SIGN_TIMES || sign == SIGN_OVER) {
-                    readValue();
+                    readValue(text, law);
                     law.put(sign);
                 } else {
                     law.put(waiting);
                     waiting = sign;
-                    readValue();
+                    readValue(text, law);
                 }
             }
             law.put(waiting);
         }
 
-        private void readValue() {
+        private void readValue(Text text, Law law) {
             int sign = text.sign();
             boolean isNumber = sign == SIGN_NUMBER;
             if (!isNumber && (sign < WORD_ASKED || sign > WORD_KIN)) {

@@ -19,6 +19,8 @@ public final class LanguageCheck {
             "^( +)(public |private )?(static )?(final )?([A-Za-z]+(?:\\[\\])? )?([A-Za-z]+)\\((.*)\\) \\{$");
     private static final Pattern FIELD = Pattern.compile(
             "^ +(private|public) (static final )?(?:final )?[A-Za-z]+(?:\\[\\])? ([A-Za-z_]+)( = .*)?;$");
+    private static final Pattern CHANGING_REFERENCE = Pattern.compile(
+            "^ +private (?!static |final )(?!(?:int|long|boolean|byte|char|short) )[A-Za-z]+(?:\\[\\])? [A-Za-z]+( = .*)?;$");
     private static final Pattern CLASS = Pattern.compile("^( *).*\\bclass ([A-Za-z]+) \\{$");
 
     private LanguageCheck() {
@@ -37,6 +39,8 @@ public final class LanguageCheck {
             Due.is("rules 2, 5, 6, 10: " + sign, code.contains(sign), false);
         }
         readMembers(code);
+        checkReferences(code);
+        checkMaking(code);
         Due.end("LanguageCheck");
     }
 
@@ -87,5 +91,27 @@ public final class LanguageCheck {
         String name = in + "." + member.group(6);
         Due.is("rule 11: lines of " + name, to - from <= 60, true);
         Due.is("rule 11: parameters of " + name, member.group(7).split(",").length <= 7, true);
+    }
+
+    /** A field that is set once, where it stands, is never null when it is used. */
+    private static void checkReferences(String code) {
+        for (String line : code.split("\n")) {
+            Due.is("rule 7: may be null:" + line, CHANGING_REFERENCE.matcher(line).find(), false);
+        }
+    }
+
+    /** What is made, is made where a field stands or in a constructor: no call makes more. */
+    private static void checkMaking(String code) {
+        boolean inConstructor = false;
+        for (String line : code.split("\n")) {
+            if (line.startsWith("    public WarmerColder() {")) {
+                inConstructor = true;
+            } else if (line.equals("    }")) {
+                inConstructor = false;
+            }
+            boolean makes = line.matches(".*\\bnew\\b.*") || line.contains(".clone()") || line.contains("[] {");
+            boolean isField = line.matches(" +private (static )?final .*;");
+            Due.is("rule 12: made by a call:" + line, makes && !inConstructor && !isField, false);
+        }
     }
 }

@@ -40,6 +40,7 @@ public final class PromiseTests {
         promises36And37();
         promise38();
         promises39And40();
+        readmeExample();
         Due.end("PromiseTests");
     }
 
@@ -1198,5 +1199,20 @@ public final class PromiseTests {
         Due.is("39 made anew", x.image(3), 0);
         Due.is("40 the new one", x.back(3), 0);
         Due.is("40 without a COURT", x.count(1), 0);
+    }
+
+    /** README.md's example, call by call. */
+    private static void readmeExample() {
+        WarmerColder x = new WarmerColder();
+        Due.is("README feed", x.feed(0x686f7572, 0x7320323b, 0x726f6164, 0x20302030, 0x3b6d616e), 20);
+        Due.is("README feed, behind", x.feed(0x20312031, 0, 0, 0, 0), 40);
+        Due.is("README end", x.end(24), 24);
+        Due.is("README court", x.court(), 2);
+        Due.is("README feed, LAW", x.feed(0x686f7572, 0x20617061, 0x72740000, 0, 0), 20);
+        Due.is("README end, LAW", x.end(10), 10);
+        Due.is("README law", x.law(), 0);
+        Due.is("README answer", x.answer(0, 0, 1, 0), 0);
+        Due.is("README kept", x.kept(0, 0), 1);
+        Due.is("README sure", x.sure(0, 0, 0), 1);
     }
 }
